@@ -697,10 +697,8 @@ public final class TokenFloor {
             if (pair == NONE) {
                 return NONE;
             }
+            // The last one stays as it is: nobody comes to wait for a cell that is written.
             firstReader[place] = nextReader[pair];
-            if (firstReader[place] == NONE) {
-                lastReader[place] = NONE;
-            }
             waiting--;
             return pair;
         }

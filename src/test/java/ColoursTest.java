@@ -4,6 +4,7 @@ public final class ColoursTest {
 
     public static void main(String[] args) {
         loopsShareTurns();
+        loopsBesideOneAnother();
         nextInAnotherSort();
         loopInALoop();
         faultsPassThroughLoops();
@@ -66,6 +67,32 @@ public final class ColoursTest {
         }
         due.same("ticks", x.ticks(4000), 0);
         due.same("sum by ticks", x.end(0, 1), 210);
+    }
+
+    /** Three loops entered from one colour, each by two acts: each pair of acts shares its turn. */
+    private static void loopsBesideOneAnother() {
+        TokenFloor x = new TokenFloor();
+        for (int i = 0; i < 6; i++) {
+            x.act(11, i % 3, 0);
+            x.token(i, 0, 1 << i);
+        }
+        for (int i = 0; i < 3; i++) {
+            x.act(2, 0, 0);
+            x.act(13, i, 0);
+            x.act(21, i, 0);
+            int sum = 6 + 3 * i;
+            x.way(i, 0, sum, 0);
+            x.way(i + 3, 0, sum, 1);
+            x.way(sum, 0, sum + 1, 0);
+            x.way(sum + 1, 0, sum + 2, 0);
+        }
+        for (int seed = 0; seed < 10; seed++) {
+            due.same("run", x.run(seed, 99), 0);
+            due.same("colours", x.about(8), 4);
+            for (int i = 0; i < 3; i++) {
+                due.same("sum of loop " + i, x.end(i, 1), 9 << i);
+            }
+        }
     }
 
     private static void nextInAnotherSort() {
@@ -203,6 +230,11 @@ public final class ColoursTest {
         due.same("the call", x.fired(0), 1);
         due.same("steps", x.about(1), 2);
         due.same("what goes nowhere is not lost", x.about(6), 0);
+        x.act(14, 1, 1);
+        x.clear(0);
+        x.token(4, 0, 1);
+        due.same("run", x.run(1, 9), 0);
+        due.same("a call of one argument gives no second", x.fired(1), 0);
     }
 
     private static void lostReturns() {

@@ -53,8 +53,8 @@ public final class BesideTest {
         }
     }
 
-    /** A loop without an end beside a clash: which comes first is the seed's choice. */
-    private static void endsDiffer() {
+    /** A clash beside a copy: with fuel 1 it is the seed's choice whether there is one. */
+    private static TokenFloor clashOrNot() {
         TokenFloor x = new TokenFloor();
         x.act(0, 0, 0);
         x.act(0, 0, 0);
@@ -63,12 +63,17 @@ public final class BesideTest {
         x.token(0, 0, 1);
         x.token(1, 0, 1);
         x.token(2, 0, 1);
+        return x;
+    }
+
+    private static void endsDiffer() {
         int[] how = new int[20];
         for (int seed = 0; seed < how.length; seed++) {
-            how[seed] = x.run(seed, 1);
+            how[seed] = clashOrNot().run(seed, 1);
         }
         boolean bothSeen = false;
         for (int a = 0; a < how.length; a++) {
+            TokenFloor x = clashOrNot();
             for (int b = 0; b < how.length; b++) {
                 bothSeen |= how[a] == 1 && how[b] == 3;
                 due.same("beside(" + a + ", " + b + ")", x.beside(a, b, 1), how[a] == how[b] ? -1 : 0);

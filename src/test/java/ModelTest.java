@@ -2,17 +2,23 @@ import java.util.ArrayList;
 import java.util.List;
 import java.util.Random;
 
-/** All promises: the program and the plain model answer the same, call by call, on many graphs. */
+/**
+ * All promises: the program and the plain model answer the same, call by call, on many graphs.
+ * No object gets more than the 512 calls that the document speaks of.
+ */
 public final class ModelTest {
     private static final Due due = new Due("ModelTest");
-
-    private final Random random;
-    private final TokenFloor x = new TokenFloor();
-    private final Model y = new Model();
-    private final List<int[]> freePorts = new ArrayList<>();
-    private final List<Integer> kinds = new ArrayList<>();
+    private static final int MAX_CALLS = 512;
+    private static final int ROUNDS = 5;
     private static final int[] ended = new int[4];
     private static int readersSeen;
+
+    private final Random random;
+    private final List<int[]> freePorts = new ArrayList<>();
+    private final List<Integer> kinds = new ArrayList<>();
+    private final TokenFloor x = new TokenFloor();
+    private final Model y = new Model();
+    private int calls;
 
     private ModelTest(long seed) {
         random = new Random(seed);
@@ -20,9 +26,12 @@ public final class ModelTest {
 
     public static void main(String[] args) {
         for (int i = 0; i < 3000; i++) {
-            new ModelTest(i).someGraph(i % 4);
+            // The same graph anew for each round, so that each has calls left to be asked about.
+            for (int round = 0; round < ROUNDS; round++) {
+                new ModelTest(i).someGraph(i % 4, round);
+            }
         }
-        for (int i = 0; i < 300; i++) {
+        for (int i = 0; i < 1000; i++) {
             new ModelTest(i).someCalls();
         }
         System.out.println("ModelTest: done " + ended[0] + ", clash " + ended[1] + ", full "
@@ -38,23 +47,32 @@ public final class ModelTest {
         return random.nextInt(n);
     }
 
+    private boolean mayCall() {
+        return calls < MAX_CALLS;
+    }
+
+    private void same(String what, int got, int want) {
+        calls++;
+        due.same(what, got, want);
+    }
+
     private void act(int kind, int number, int ports) {
-        int got = x.act(kind, number, ports);
-        due.same("act(" + kind + ", " + number + ", " + ports + ")", got, y.act(kind, number, ports));
-        if (got >= 0) {
+        int want = y.act(kind, number, ports);
+        same("act(" + kind + ", " + number + ", " + ports + ")", x.act(kind, number, ports), want);
+        if (want >= 0) {
             kinds.add(kind);
-            for (int p = 0; p < x.told(got, 2); p++) {
-                freePorts.add(new int[] {got, p});
+            for (int p = 0; p < y.told(want, 2); p++) {
+                freePorts.add(new int[] {want, p});
             }
         }
     }
 
     private void way(int from, int side, int to, int port) {
-        due.same("way", x.way(from, side, to, port), y.way(from, side, to, port));
+        same("way", x.way(from, side, to, port), y.way(from, side, to, port));
     }
 
     private void token(int act, int port, int value) {
-        due.same("token", x.token(act, port, value), y.token(act, port, value));
+        same("token", x.token(act, port, value), y.token(act, port, value));
     }
 
     private int someKind(int theme) {
@@ -75,7 +93,7 @@ public final class ModelTest {
     }
 
     /** Most ports get one way or one token, so that many runs get far; a few get more. */
-    private void someGraph(int theme) {
+    private void someGraph(int theme, int round) {
         int acts = 3 + below(30);
         for (int i = 0; i < acts; i++) {
             int kind = someKind(theme);
@@ -84,7 +102,7 @@ public final class ModelTest {
         int tokensIn = 10 + below(60);
         for (int[] port : freePorts) {
             // What RETURN and ENTER begin comes by colours; a parameter's port is for calls.
-            if (x.told(port[0], 0) == 15 && below(8) > 0) {
+            if (kinds.get(port[0]) == 15 && below(8) > 0) {
                 continue;
             }
             if (below(100) < tokensIn) {
@@ -99,22 +117,23 @@ public final class ModelTest {
         if (theme > 0 && below(6) == 0) {
             longRun(theme, kinds.size());
         }
-        runs();
+        run(round);
+        tell();
     }
 
     /** Three chains round and round, by turns or by calls, that touch the rest of the graph. */
     private void longRun(int theme, int rest) {
         int first = kinds.size();
-        boolean calls = theme == 2;
-        act(calls ? 14 : 11, 9, 1);
-        act(calls ? 15 : 0, calls ? 90 : 0, 0);
+        boolean byCalls = theme == 2;
+        act(byCalls ? 14 : 11, 9, 1);
+        act(byCalls ? 15 : 0, byCalls ? 90 : 0, 0);
         int length = below(8);
         for (int i = 0; i < length; i++) {
             act(below(3) == 0 && theme == 3 ? 17 : 0, 0, 0);
         }
-        act(calls ? 14 : 12, 9, 1);
+        act(byCalls ? 14 : 12, 9, 1);
         int last = kinds.size() - 1;
-        if (!calls) {
+        if (!byCalls) {
             way(first, 0, first + 1, 0);
             way(last, 0, first + 1, 0);
         }
@@ -152,71 +171,91 @@ public final class ModelTest {
         way(from, kinds.get(from) == 10 ? below(2) : 0, port[0], port[1]);
     }
 
-    private void runs() {
-        for (int i = 0; i < 3; i++) {
-            int seed = random.nextInt();
-            int fuel = below(4) == 0 ? below(20) : 4000;
-            due.same("run(" + seed + ", " + fuel + ")", x.run(seed, fuel), y.run(seed, fuel));
-            tell();
+    /** Three rounds by seeds, one by ticks, one by two seeds. */
+    private void run(int round) {
+        for (int i = 0; i < round; i++) {
+            random.nextLong();
         }
-        int fuel = below(3) == 0 ? below(30) : 4000;
-        due.same("ticks(" + fuel + ")", x.ticks(fuel), y.ticks(fuel));
-        tell();
-        int a = random.nextInt();
-        int b = random.nextInt();
-        due.same("beside", x.beside(a, b, fuel), y.beside(a, b, fuel));
-        tell();
+        int seed = random.nextInt();
+        int fuel = below(4) == 0 ? below(30) : 4000;
+        if (round < 3) {
+            same("run(" + seed + ", " + fuel + ")", x.run(seed, fuel), y.run(seed, fuel));
+        } else if (round == 3) {
+            same("ticks(" + fuel + ")", x.ticks(fuel), y.ticks(fuel));
+        } else {
+            int other = random.nextInt();
+            same("beside", x.beside(seed, other, fuel), y.beside(seed, other, fuel));
+        }
     }
 
+    /** As much as the calls that are left allow, the figures of the run first. */
     private void tell() {
-        if (x.about(0) >= 0) {
-            ended[x.about(0)]++;
-            readersSeen += x.about(5) > 0 ? 1 : 0;
+        if (y.about(0) >= 0) {
+            ended[y.about(0)]++;
+            readersSeen += y.about(5) > 0 ? 1 : 0;
         }
-        for (int what = -1; what <= 11; what++) {
-            due.same("about(" + what + ")", x.about(what), y.about(what));
+        for (int what = -1; what <= 11 && mayCall(); what++) {
+            same("about(" + what + ")", x.about(what), y.about(what));
         }
-        for (int e = -1; e <= 10; e++) {
-            for (int what = -1; what <= 3; what++) {
-                due.same("end(" + e + ", " + what + ")", x.end(e, what), y.end(e, what));
+        for (int e = -1; e <= 10 && mayCall(); e++) {
+            tellEnd(e, 0);
+            tellEnd(e, 1);
+            tellEnd(e, below(5) - 1);
+        }
+        for (int act = -1; act <= kinds.size() && mayCall(); act++) {
+            same("fired(" + act + ")", x.fired(act), y.fired(act));
+        }
+        for (int act = 0; act < kinds.size() && mayCall(); act++) {
+            boolean makes = kinds.get(act) == 17;
+            for (int i = makes ? -1 : 0; i <= (makes ? 4 : 0); i++) {
+                tellCell(act, i, below(5) - 1);
             }
         }
-        for (int act = -1; act <= kinds.size(); act++) {
-            due.same("fired(" + act + ")", x.fired(act), y.fired(act));
-            for (int what = -1; what <= 6; what++) {
-                due.same("told(" + act + ", " + what + ")", x.told(act, what), y.told(act, what));
-            }
-            for (int i = -1; i <= 5; i++) {
-                int what = below(5) - 1;
-                due.same("cell(" + act + ", " + i + ")", x.cell(act, i, what), y.cell(act, i, what));
-            }
+        while (mayCall()) {
+            tellAct(below(kinds.size() + 2) - 1, below(8) - 1);
         }
+    }
+
+    private void tellEnd(int e, int what) {
+        if (mayCall()) {
+            same("end(" + e + ", " + what + ")", x.end(e, what), y.end(e, what));
+        }
+    }
+
+    private void tellCell(int act, int i, int what) {
+        if (mayCall()) {
+            same("cell(" + act + ", " + i + ", " + what + ")", x.cell(act, i, what), y.cell(act, i, what));
+        }
+    }
+
+    private void tellAct(int act, int what) {
+        same("told(" + act + ", " + what + ")", x.told(act, what), y.told(act, what));
     }
 
     /** Calls in any order, wrong ones among them; the graph grows, runs, and is cleared. */
     private void someCalls() {
-        for (int i = 0; i < 400; i++) {
+        while (mayCall()) {
             int a = below(12) - 1;
             int b = below(5) - 1;
             int c = below(12) - 1;
+            int seed = random.nextInt();
             int fuel = below(10) == 0 ? below(2) * 4002 - 1 : below(40);
-            switch (below(12)) {
-                case 0, 1, 2 -> {
-                    int kind = below(24) - 1;
-                    act(kind, below(12) - 1, below(5));
-                }
+            switch (below(18)) {
+                case 0, 1, 2 -> act(below(24) - 1, below(12) - 1, below(5));
                 case 3, 4, 5 -> way(a, below(3) == 0 ? b : 0, c, below(3) == 0 ? 1 : 0);
-                case 6, 7 -> token(a, b, random.nextInt(5));
-                case 8 -> due.same("run", x.run(i, fuel), y.run(i, fuel));
-                case 9 -> due.same("ticks", x.ticks(fuel), y.ticks(fuel));
-                case 10 -> due.same("beside", x.beside(i, c, fuel), y.beside(i, c, fuel));
-                default -> {
+                case 6, 7 -> token(a, b, below(5));
+                case 8 -> same("run", x.run(seed, fuel), y.run(seed, fuel));
+                case 9 -> same("ticks", x.ticks(fuel), y.ticks(fuel));
+                case 10 -> same("beside", x.beside(seed, c, fuel), y.beside(seed, c, fuel));
+                case 11 -> {
                     int what = below(6) < 4 ? 0 : below(5) - 1;
-                    due.same("clear", x.clear(what) ? 1 : 0, y.clear(what) ? 1 : 0);
+                    same("clear", x.clear(what) ? 1 : 0, y.clear(what) ? 1 : 0);
                 }
-            }
-            if (i % 20 == 0) {
-                tell();
+                case 12, 13 -> same("about", x.about(c), y.about(c));
+                case 14 -> same("fired", x.fired(a), y.fired(a));
+                case 15 -> tellEnd(a, b);
+                case 16 -> tellCell(a, below(5) - 1, b);
+                default -> tellAct(a, below(8) - 1);
             }
         }
     }

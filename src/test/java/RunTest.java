@@ -53,12 +53,12 @@ public final class RunTest {
 
     private static void chosenBySeed() {
         int n = 40;
-        TokenFloor x = new TokenFloor();
-        for (int i = 0; i < n; i++) {
-            x.act(0, 0, 0);
-            x.token(i, 0, i);
-        }
         for (int seed : new int[] {0, 1, 2, -1, 12345, Integer.MIN_VALUE, Integer.MAX_VALUE}) {
+            TokenFloor x = new TokenFloor();
+            for (int i = 0; i < n; i++) {
+                x.act(0, 0, 0);
+                x.token(i, 0, i);
+            }
             java.util.List<Integer> gone = order(seed, n);
             for (int fuel = 0; fuel <= n; fuel += 13) {
                 due.same("run", x.run(seed, fuel), 3);
@@ -85,7 +85,7 @@ public final class RunTest {
     /** What becomes ready goes to the row's end; what leaves it leaves the others as they were. */
     private static void theRowKeepsItsOrder() {
         TokenFloor x = new TokenFloor();
-        int n = 12;
+        int n = 9;
         for (int i = 0; i < 2 * n; i++) {
             x.act(0, 0, 0);
         }

@@ -242,7 +242,7 @@ public final class AnswerEdgesTest {
     private static void aboutMost(Due due) {
         Net net = twoByTwo();
         int[] most = {0, 1, 2, 2, 2, 3, 4, 4};
-        for (int fuel = 0; fuel <= 7; fuel++) {
+        for (int fuel : new int[] {0, 1, 2, 3, 4, 5, 6, 7, 6, 5, 4, 3, 2, 1, 0}) {
             net.x.ticks(fuel);
             due.same("with fuel " + fuel, net.x.about(3), most[fuel]);
         }
@@ -458,20 +458,29 @@ public final class AnswerEdgesTest {
         for (int e = 0; e <= 9; e++) {
             due.same("end(" + e + ", 1)", x.end(e, 1), contents[e]);
         }
-        for (int cause = 2; cause <= 5; cause++) {
+        for (int cause = 1; cause <= 5; cause++) {
             Net net = new Net();
-            int act = cause == 2 ? net.act(Net.READ) : net.act(cause == 3 ? Net.MAKE : cause == 4 ? Net.NOT : Net.NEXT);
-            if (cause == 2 || cause == 4) {
-                net.way(net.row(0), act);
-            } else {
-                net.token(act, 0, -1);
-            }
-            if (cause == 2) {
-                net.token(act, 1, 0);
-            }
+            int act = faultOf(net, cause);
             net.end(act, 0);
             net.x.run(1, 99);
             due.fault(net.x, 0, cause, act);
+        }
+    }
+
+    private static int faultOf(Net net, int cause) {
+        switch (cause) {
+            case 1:
+                return net.fault();
+            case 2:
+                int read = net.chain(net.row(0), new int[] {Net.READ, 0});
+                net.token(read, 1, 0);
+                return read;
+            case 3:
+                return net.row(-1);
+            case 4:
+                return net.chain(net.row(0), new int[] {Net.NOT, 0});
+            default:
+                return net.begin(Net.NEXT, 0, 1);
         }
     }
 
@@ -616,10 +625,12 @@ public final class AnswerEdgesTest {
 
     private static void noSuchCell(Due due) {
         for (int cells : new int[] {0, 1, 200}) {
+            // Between two others: what is past its own cells is theirs.
             Net net = new Net();
+            net.row(200);
             int make = net.row(cells);
             net.row(200);
-            net.x.run(1, 9);
+            net.x.ticks(9);
             for (int i : new int[] {-1, cells, cells + 1, Net.LEAST, Net.MOST}) {
                 for (int what = 0; what <= 2; what++) {
                     due.same("cell " + i + " of " + cells, net.x.cell(make, i, what), -1);
@@ -725,13 +736,15 @@ public final class AnswerEdgesTest {
         for (int b = 0; b < 12; b++) {
             Net net = clashOrSpent();
             net.x.beside(1 - b, b, 1);
-            int[] got = {net.x.about(0), net.x.about(9), net.x.fired(0), net.x.fired(1), net.x.about(10)};
-            net.x.run(b, 1);
-            int[] want = {net.x.about(0), net.x.about(9), net.x.fired(0), net.x.fired(1), net.x.about(10)};
-            for (int i = 0; i < got.length; i++) {
-                due.same("by seed " + b, got[i], want[i]);
+            TokenFloor alone = clashOrSpent().x;
+            alone.run(b, 1);
+            for (int what = 0; what <= 10; what++) {
+                due.same("about(" + what + ") by seed " + b, net.x.about(what), alone.about(what));
             }
-            seen |= want[2] == 1 ? 1 : 2;
+            for (int act = 0; act <= 1; act++) {
+                due.same("fired(" + act + ") by seed " + b, net.x.fired(act), alone.fired(act));
+            }
+            seen |= alone.fired(0) == 1 ? 1 : 2;
         }
         due.same("both choices were seen", seen, 3);
         Net net = twoSteps();

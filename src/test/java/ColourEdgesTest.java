@@ -6,8 +6,10 @@ public final class ColourEdgesTest {
         all.test("ENTER of loop l: to turn 0 of l", ColourEdgesTest::enterMeets);
         all.test("ENTER of loop l: (another l is another COLOUR)", ColourEdgesTest::enterOfAnotherLoop);
         all.test("ENTER: turn 0 of l in c (not in another c)", ColourEdgesTest::enterFromAnotherColour);
+        all.test("ENTER of loop l: (l 0 to 9, each of its own)", ColourEdgesTest::tenLoops);
         all.test("NEXT: from turn t to turn t + 1", ColourEdgesTest::nextCounts);
         all.test("NEXT: of l in c (stays in c)", ColourEdgesTest::nextStaysInside);
+        all.test("NEXT: of l in c (not in another c)", ColourEdgesTest::nextInAnotherColour);
         all.test("LEAVE: from a turn of l in c to c", ColourEdgesTest::leaveFromAnyTurn);
         all.test("LEAVE: from a turn of l in a turn", ColourEdgesTest::leaveOneLoop);
         all.test("NEXT, LEAVE in COLOUR 0: cause 5", ColourEdgesTest::turnInZero);
@@ -18,6 +20,7 @@ public final class ColourEdgesTest {
         all.test("NEXT, LEAVE: a FAULT that comes is passed", ColourEdgesTest::faultIsPassed);
         all.test("CALL by ACT a in c: to the call of a in c", ColourEdgesTest::callsApart);
         all.test("CALL by ACT a: (in another c another COLOUR)", ColourEdgesTest::callsInTurns);
+        all.test("CALL by ACT a: (a call is no turn)", ColourEdgesTest::callsAndTurnsApart);
         all.test("CALL: 1 to 3 arguments", ColourEdgesTest::argumentsOfCalls);
         all.test("CALL: it gives nothing itself", ColourEdgesTest::callGivesNothing);
         all.test("PARAMETER: NUMBER 10 f + i", ColourEdgesTest::parametersOfFunctions);
@@ -84,6 +87,28 @@ public final class ColourEdgesTest {
         due.same("colours", net.x.about(8), 3);
     }
 
+    private static void tenLoops(Due due) {
+        // Each loop is entered by two acts, the one after all loops were entered by the first.
+        Net net = new Net();
+        int[] first = new int[10];
+        for (int l = 0; l <= 9; l++) {
+            first[l] = net.begin(Net.ENTER, l, 1);
+        }
+        int plus = net.act(Net.PLUS);
+        for (int l = 0; l <= 9; l++) {
+            net.way(first[l], 0, plus, 0);
+            net.way(net.begin(Net.ENTER, l, 2), 0, plus, 1);
+        }
+        for (int seed = 0; seed < 5; seed++) {
+            due.same("run", net.x.run(seed, 99), Net.DONE);
+            due.same("they meet in each", net.x.fired(plus), 10);
+            due.same("colours", net.x.about(8), 11);
+        }
+        due.same("ticks", net.x.ticks(99), Net.DONE);
+        due.same("they meet in each", net.x.fired(plus), 10);
+        due.same("colours", net.x.about(8), 11);
+    }
+
     private static void nextCounts(Due due) {
         for (int a = 0; a <= 3; a++) {
             for (int b = 0; b <= 3; b++) {
@@ -111,6 +136,15 @@ public final class ColourEdgesTest {
             new int[] {Net.LEAVE, 0});
         meet(due, net, turn, inner, true);
         due.same("colours", net.x.about(8), 6);
+    }
+
+    private static void nextInAnotherColour(Due due) {
+        Net net = new Net();
+        int[][] inner = {{Net.ENTER, 0}, NEXT};
+        int one = net.chain(net.begin(Net.ENTER, 5, 1), inner);
+        int two = net.chain(net.begin(Net.ENTER, 6, 1), inner);
+        meet(due, net, one, two, false);
+        due.same("colours", net.x.about(8), 7);
     }
 
     private static void leaveFromAnyTurn(Due due) {
@@ -168,31 +202,37 @@ public final class ColourEdgesTest {
     }
 
     private static void turnInACall(Due due) {
-        // The call is made by act 0, in colour 0 and in a turn of loop 0.
         for (int kind = Net.NEXT; kind <= Net.LEAVE; kind++) {
-            for (int inTurn = 0; inTurn <= 1; inTurn++) {
-                Net net = new Net();
-                int call = net.call(0, 1);
-                int act = net.chain(net.act(Net.PARAMETER, 0), new int[] {kind, 0});
-                net.chain(act, new int[] {Net.RETURN, 0});
-                if (inTurn == 1) {
-                    net.way(net.begin(Net.ENTER, 0, 3), call);
-                    net.end(net.chain(call, new int[] {Net.LEAVE, 0}), 0);
-                } else {
-                    net.token(call, 0, 3);
-                    net.end(call, 0);
-                }
-                due.same("run", net.x.run(1, 99), Net.DONE);
-                due.fault(net.x, 0, 5, act);
-                due.same("colours", net.x.about(8), 2 + inTurn);
+            for (int l = 0; l <= 9; l++) {
+                turnInACall(due, kind, l, false);
+                turnInACall(due, kind, l, true);
             }
         }
+    }
+
+    /** The call is made by act 0, in colour 0 or in a turn of the same loop. */
+    private static void turnInACall(Due due, int kind, int l, boolean inTurn) {
+        Net net = new Net();
+        int call = net.call(0, 1);
+        int act = net.chain(net.act(Net.PARAMETER, 0), new int[] {kind, l});
+        net.chain(act, new int[] {Net.RETURN, 0});
+        if (inTurn) {
+            net.way(net.begin(Net.ENTER, l, 3), call);
+            net.end(net.chain(call, new int[] {Net.LEAVE, l}), 0);
+        } else {
+            net.token(call, 0, 3);
+            net.end(call, 0);
+        }
+        due.same("run", net.x.run(1, 99), Net.DONE);
+        due.fault(net.x, 0, 5, act);
+        due.same("colours", net.x.about(8), inTurn ? 3 : 2);
     }
 
     private static void turnOfTheOuterLoop(Due due) {
         for (int kind = Net.NEXT; kind <= Net.LEAVE; kind++) {
             Net net = new Net();
-            int act = net.chain(net.begin(Net.ENTER, 1, 3), new int[] {Net.ENTER, 2}, new int[] {kind, 1});
+            int inner = net.chain(net.begin(Net.ENTER, 1, 3), new int[] {Net.ENTER, 2});
+            int act = net.chain(inner, new int[] {kind, 1});
             net.end(net.chain(act, new int[] {Net.LEAVE, 2}, new int[] {Net.LEAVE, 1}), 0);
             due.same("run", net.x.run(1, 99), Net.DONE);
             due.fault(net.x, 0, 5, act);
@@ -260,6 +300,25 @@ public final class ColourEdgesTest {
             due.same("parameters", net.x.fired(parameter), 3);
             due.same("colours", net.x.about(8), 6);
         }
+    }
+
+    private static void callsAndTurnsApart(Due due) {
+        // Acts 0 to 19 call, acts 20 to 29 enter loops 0 to 9: thirty colours from one.
+        Net net = new Net();
+        for (int i = 0; i < 20; i++) {
+            net.begin(Net.CALL, 0, 1);
+        }
+        for (int l = 0; l <= 9; l++) {
+            net.begin(Net.ENTER, l, 1);
+        }
+        int copy = net.act(Net.COPY);
+        net.way(net.act(Net.PARAMETER, 0), copy);
+        for (int l = 0; l <= 9; l++) {
+            net.way(20 + l, copy);
+        }
+        due.same("run", net.x.run(1, 999), Net.DONE);
+        due.same("colours", net.x.about(8), 31);
+        due.same("once in each", net.x.fired(copy), 30);
     }
 
     private static void argumentsOfCalls(Due due) {
@@ -373,8 +432,14 @@ public final class ColourEdgesTest {
     }
 
     private static void returnInATurn(Due due) {
-        Net net = new Net();
-        isLost(due, net, net.chain(net.begin(Net.ENTER, 0, 1), new int[] {Net.RETURN, 0}));
+        for (int l = 0; l <= 9; l++) {
+            Net net = new Net();
+            isLost(due, net, net.chain(net.begin(Net.ENTER, l, 1), new int[] {Net.RETURN, 0}));
+            // In the next turn, too.
+            net = new Net();
+            int enter = net.begin(Net.ENTER, l, 1);
+            isLost(due, net, net.chain(enter, new int[] {Net.NEXT, l}, new int[] {Net.RETURN, 0}));
+        }
     }
 
     private static void returnInATurnInACall(Due due) {

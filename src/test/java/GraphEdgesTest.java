@@ -325,8 +325,8 @@ public final class GraphEdgesTest {
             due.same("token " + i, net.x.token(net.act(Net.COPY), 0, i), i);
         }
         due.same("the 40th", net.x.token(last, 0, 400), 40);
-        due.same("the 41st", net.x.token(late, 0, 410), -1);
         due.same("the 41st at a port that has one", net.x.token(last, 0, 410), -1);
+        due.same("the 41st", net.x.token(late, 0, 410), -1);
         due.same("tokens of the one", net.x.told(last, 5), 1);
         due.same("tokens of the other", net.x.told(late, 5), 0);
         due.same("run", net.x.run(1, 4000), Net.DONE);

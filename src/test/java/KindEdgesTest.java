@@ -27,6 +27,7 @@ public final class KindEdgesTest {
         all.test("READ: what was written there", KindEdgesTest::readWritten);
         all.test("READ: while it's EMPTY the reader waits", KindEdgesTest::readEmpty);
         all.test("WRITE: z into cell y of ROW x (cause 2)", KindEdgesTest::writeNoCell);
+        all.test("READ, WRITE: of ROW x (not of another)", KindEdgesTest::cellsOfOtherRows);
         all.test("WRITE: it gives z", KindEdgesTest::writeGives);
         all.test("SIZE: how many cells x has", KindEdgesTest::size);
         all.test("END: the end's VALUE is x", KindEdgesTest::ends);
@@ -62,9 +63,7 @@ public final class KindEdgesTest {
         net.act(kind, number);
         net.end(0, 0);
         for (int port = 0; port < came.length; port++) {
-            Came c = came[port];
-            int from = c.sort == 1 ? net.begin(Net.COPY, 0, c.n) : c.sort == 2 ? net.row(c.n) : net.fault();
-            net.way(from, 0, 0, port);
+            net.way(giver(net, came[port]), 0, 0, port);
         }
         if (kind == Net.SWITCH) {
             net.way(0, 1, net.act(Net.END, OTHER_SIDE), 0);
@@ -72,6 +71,13 @@ public final class KindEdgesTest {
         due.same("run", net.x.run(9, 4000), Net.DONE);
         due.same("it went off", net.x.fired(0), 1);
         return net.x;
+    }
+
+    private static int giver(Net net, Came came) {
+        if (came.sort == 1) {
+            return net.begin(Net.COPY, 0, came.n);
+        }
+        return came.sort == 2 ? net.row(came.n) : net.fault();
     }
 
     private static TokenFloor trial(Due due, int kind, Came... came) {
@@ -365,6 +371,36 @@ public final class KindEdgesTest {
         due.same("it waits", net.x.about(5), 1);
     }
 
+    private static void cellsOfOtherRows(Due due) {
+        // Acts 0 to 2 make rows of two cells, one after the other; what is past the second's own
+        // cells, where the others' might stand, is there for nobody.
+        for (int y : new int[] {-2, -1, 0, 1, 2, 3}) {
+            boolean there = y == 0 || y == 1;
+            Net net = new Net();
+            for (int i = 0; i < 3; i++) {
+                net.row(2);
+            }
+            int write = net.act(Net.WRITE);
+            int read = net.act(Net.READ);
+            for (int act : new int[] {write, read}) {
+                net.way(1, act);
+                net.token(act, 1, y);
+            }
+            net.token(write, 2, 5);
+            net.end(read, 0);
+            due.same("ticks", net.x.ticks(99), Net.DONE);
+            for (int i = 0; i < 6; i++) {
+                boolean its = there && i == 2 + y;
+                due.same("cell " + i % 2 + " of row " + i / 2, net.x.cell(i / 2, i % 2, 0), its ? 1 : 0);
+            }
+            if (there) {
+                due.number(net.x, 0, 5);
+            } else {
+                due.fault(net.x, 0, 2, read);
+            }
+        }
+    }
+
     private static void writeGives(Due due) {
         due.number(trial(due, Net.WRITE, row(1), number(0), number(0)), 0, 0);
         due.number(trial(due, Net.WRITE, row(1), number(0), number(Net.LEAST)), 0, Net.LEAST);
@@ -393,7 +429,9 @@ public final class KindEdgesTest {
     }
 
     private static void firstFault(Due due) {
-        int[] kinds = {Net.PLUS, Net.MINUS, Net.TIMES, Net.DIVIDE, Net.REST, Net.LESS, Net.ALIKE, Net.READ};
+        int[] kinds = {
+            Net.PLUS, Net.MINUS, Net.TIMES, Net.DIVIDE, Net.REST, Net.LESS, Net.ALIKE, Net.READ
+        };
         for (int kind : kinds) {
             due.fault(trial(due, kind, FAULT, FAULT), 0, 1, 2);
             due.fault(trial(due, kind, number(1), FAULT), 0, 1, 3);
@@ -443,7 +481,8 @@ public final class KindEdgesTest {
         // ENTER, NEXT, LEAVE, CALL, PARAMETER, RETURN, END in one chain.
         Net net = new Net();
         int fault = net.fault();
-        int left = net.chain(fault, new int[] {Net.ENTER, 1}, new int[] {Net.NEXT, 1}, new int[] {Net.LEAVE, 1});
+        int next = net.chain(fault, new int[] {Net.ENTER, 1}, new int[] {Net.NEXT, 1});
+        int left = net.chain(next, new int[] {Net.LEAVE, 1});
         int call = net.call(3, 2);
         net.way(left, 0, call, 1);
         net.token(call, 0, 1);

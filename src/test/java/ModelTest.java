@@ -224,7 +224,8 @@ public final class ModelTest {
 
     private void tellCell(int act, int i, int what) {
         if (mayCall()) {
-            same("cell(" + act + ", " + i + ", " + what + ")", x.cell(act, i, what), y.cell(act, i, what));
+            String call = "cell(" + act + ", " + i + ", " + what + ")";
+            same(call, x.cell(act, i, what), y.cell(act, i, what));
         }
     }
 

@@ -11,6 +11,7 @@ public final class RunEdgesTest {
         all.test("the TOKENS come to their PORTS, as they were put", RunEdgesTest::tokensAsPut);
         all.test("READY when all its PORTS have a TOKEN", RunEdgesTest::allPorts);
         all.test("READY: a TOKEN of it (of one COLOUR)", RunEdgesTest::portsOfOneColour);
+        all.test("READY: all 80 ACTS in one COLOUR", RunEdgesTest::allActs);
         all.test("READY ones stand in a row, as they became so", RunEdgesTest::asTheyBecameReady);
         all.test("S is 1103515245 S + 12345; (S >>> 16) % n", RunEdgesTest::chosenBySeed);
         all.test("WAYS by numbers", RunEdgesTest::waysByNumbers);
@@ -21,6 +22,7 @@ public final class RunEdgesTest {
         all.test("CLASH: at a PORT that waits for others", RunEdgesTest::clashAtWaiting);
         all.test("CLASH: at a READY one", RunEdgesTest::clashAtReady);
         all.test("CLASH: a PORT that had one ever", RunEdgesTest::clashAtGone);
+        all.test("CLASH: at any PORT of any KIND", RunEdgesTest::clashAtAnyPort);
         all.test("CLASH: two WAYS to one PORT", RunEdgesTest::clashOfTwoWays);
         all.test("CLASH: at a PARAMETER", RunEdgesTest::clashAtParameter);
         all.test("CLASH: by two RETURNS of one call", RunEdgesTest::clashOfReturns);
@@ -102,6 +104,24 @@ public final class RunEdgesTest {
         due.same("run", net.x.run(1, 9), Net.DONE);
         due.same("it has both, but of two colours", net.x.fired(plus), 0);
         due.same("left", net.x.about(4), 2);
+    }
+
+    private static void allActs(Due due) {
+        // Act 0 has its first token ahead of all and its last one after all the others.
+        Net net = new Net();
+        int plus = net.act(Net.PLUS);
+        net.token(plus, 0, 1);
+        int last = net.begin(Net.COPY, 0, 1);
+        for (int act = 2; act < 80; act++) {
+            last = net.chain(last, new int[] {Net.COPY, 0});
+        }
+        due.same("run", net.x.run(1, 4000), Net.DONE);
+        due.same("left", net.x.about(4), 1);
+        net.way(last, 0, plus, 1);
+        due.same("run", net.x.run(1, 4000), Net.DONE);
+        due.same("steps", net.x.about(1), 80);
+        due.same("it has both", net.x.fired(plus), 1);
+        due.same("left", net.x.about(4), 0);
     }
 
     private static void asTheyBecameReady(Due due) {
@@ -298,6 +318,22 @@ public final class RunEdgesTest {
         int self = net.begin(Net.COPY, 0, 1);
         net.way(self, self);
         clashes(due, net, self);
+    }
+
+    private static void clashAtAnyPort(Due due) {
+        for (int kind = 0; kind <= 21; kind++) {
+            int ports = Net.portsOf(kind, 3);
+            for (int port = 0; port < ports; port++) {
+                Net net = new Net();
+                net.x.act(kind, 0, 3);
+                for (int p = 0; p < ports; p++) {
+                    net.token(0, p, 1);
+                }
+                net.way(net.begin(Net.COPY, 0, 1), 0, 0, port);
+                clashes(due, net, 0);
+                due.same("it went off ahead of it", net.x.fired(0), 1);
+            }
+        }
     }
 
     private static void clashOfTwoWays(Due due) {

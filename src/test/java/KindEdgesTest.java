@@ -439,6 +439,10 @@ public final class KindEdgesTest {
         }
         due.fault(trial(due, Net.WRITE, FAULT, FAULT, FAULT), 0, 1, 2);
         due.fault(trial(due, Net.WRITE, row(1), FAULT, FAULT), 0, 1, 3);
+        // A row of many cells: the FAULT's cause might pass for a cell's number.
+        TokenFloor got = trial(due, Net.READ, row(9), FAULT);
+        due.fault(got, 0, 1, 3);
+        due.same("nobody waits", got.about(5), 0);
         for (int kind : new int[] {Net.NOT, Net.MAKE, Net.SIZE}) {
             due.fault(trial(due, kind, FAULT), 0, 1, 2);
         }
@@ -506,11 +510,13 @@ public final class KindEdgesTest {
     }
 
     private static void faultAtWrite(Due due) {
-        for (Came z : new Came[] {number(5), FAULT}) {
-            TokenFloor got = trial(due, Net.WRITE, row(1), FAULT, z);
+        for (Came z : new Came[] {number(5), row(9), FAULT}) {
+            TokenFloor got = trial(due, Net.WRITE, row(9), FAULT, z);
             due.fault(got, 0, 1, 3);
-            due.same("nothing is written", got.cell(2, 0, 0), 0);
-            due.fault(trial(due, Net.WRITE, FAULT, number(0), z), 0, 1, 2);
+            nothingWritten(due, got, 2, 9);
+            got = trial(due, Net.WRITE, FAULT, number(0), z);
+            due.fault(got, 0, 1, 2);
+            nothingWritten(due, got, 4, z.sort == 2 ? 9 : 0);
         }
     }
 
@@ -540,20 +546,56 @@ public final class KindEdgesTest {
         }
         due.fault(trial(due, Net.NOT, row(0)), 0, 4, 0);
         due.fault(trial(due, Net.MAKE, row(1)), 0, 4, 0);
-        due.fault(trial(due, Net.READ, row(1), row(1)), 0, 4, 0);
-        TokenFloor got = trial(due, Net.WRITE, row(1), row(1), number(5));
-        due.fault(got, 0, 4, 0);
-        due.same("nothing is written", got.cell(2, 0, 0), 0);
+        // Rows of many cells, too: whatever a ROW is inside, it might pass for a cell's number.
+        for (int cells : new int[] {1, 9}) {
+            TokenFloor got = trial(due, Net.READ, row(cells), row(cells));
+            due.fault(got, 0, 4, 0);
+            due.same("nobody waits", got.about(5), 0);
+            got = trial(due, Net.WRITE, row(cells), row(cells), number(5));
+            due.fault(got, 0, 4, 0);
+            nothingWritten(due, got, 2, cells);
+            nothingWritten(due, got, 3, cells);
+        }
+    }
+
+    private static void nothingWritten(Due due, TokenFloor got, int make, int cells) {
+        for (int i = 0; i < cells; i++) {
+            due.same("cell " + i + " of act " + make, got.cell(make, i, 0), 0);
+        }
     }
 
     private static void numberForRow(Due due) {
-        due.fault(trial(due, Net.SIZE, number(0)), 0, 4, 0);
-        due.fault(trial(due, Net.READ, number(0), number(0)), 0, 4, 0);
-        due.fault(trial(due, Net.WRITE, number(0), number(0), number(5)), 0, 4, 0);
-        // With a row there, too, whose place in the store the number might be.
-        TokenFloor got = trial(due, Net.WRITE, number(0), number(0), row(3));
-        due.fault(got, 0, 4, 0);
-        due.same("nothing is written", got.cell(4, 0, 0), 0);
+        for (int x = -1; x <= 2; x++) {
+            due.fault(trial(due, Net.SIZE, number(x)), 0, 4, 0);
+            due.fault(trial(due, Net.READ, number(x), number(0)), 0, 4, 0);
+            due.fault(trial(due, Net.WRITE, number(x), number(0), number(5)), 0, 4, 0);
+            // With a row there, too, for which the number might pass.
+            TokenFloor got = trial(due, Net.WRITE, number(x), number(0), row(3));
+            due.fault(got, 0, 4, 0);
+            nothingWritten(due, got, 4, 3);
+            got = trial(due, Net.READ, number(x), row(3));
+            due.fault(got, 0, 4, 0);
+            due.same("nobody waits", got.about(5), 0);
+            numberBesideRows(due, x);
+        }
+    }
+
+    /** A READ and a SIZE of a number, once three rows are there that nobody asks for. */
+    private static void numberBesideRows(Due due, int x) {
+        Net net = new Net();
+        for (int i = 0; i < 3; i++) {
+            net.row(3);
+        }
+        int read = net.act(Net.READ);
+        net.token(read, 0, x);
+        net.token(read, 1, 1);
+        int size = net.begin(Net.SIZE, 0, x);
+        net.end(read, 0);
+        net.end(size, 1);
+        due.same("ticks", net.x.ticks(99), Net.DONE);
+        due.fault(net.x, 0, 4, read);
+        due.fault(net.x, 1, 4, size);
+        due.same("nobody waits", net.x.about(5), 0);
     }
 
     private static void oneOfEach(Due due) {

@@ -40,8 +40,10 @@ public final class RunEdgesTest {
         all.test("FULL: (not by a COLOUR that is there)", RunEdgesTest::coloursKnown);
         all.test("FULL: more than 3000 pairs", RunEdgesTest::pairs);
         all.test("FULL: pairs that have had a TOKEN", RunEdgesTest::pairsHalfFilled);
+        all.test("FULL: 3000 pairs, the last ones READY at once", RunEdgesTest::pairsReadyAtOnce);
         all.test("FULL: (not by a pair that is there)", RunEdgesTest::pairsKnown);
         all.test("FULL: more than 300 ROWS", RunEdgesTest::rows);
+        all.test("FULL: 300 ROWS, and NUMBERS that are none of them", RunEdgesTest::rowsAndNumbers);
         all.test("FULL: (not by a MAKE that gives a FAULT)", RunEdgesTest::rowsNotMade);
         all.test("FULL: more than 2000 cells", RunEdgesTest::cells);
         all.test("SPENT, when FUEL STEPS are done and one is READY", RunEdgesTest::spent);
@@ -617,6 +619,53 @@ public final class RunEdgesTest {
         endsWith(due, net, Net.FULL, 301);
     }
 
+    /**
+     * As counting by NEXT, with six copies in a row ahead of the NEXT, so that one alone is ever
+     * ready: 299 * 10 + 2 pairs. When it is over, a copy gives to so many at once.
+     */
+    private static Net oneByOneThen(int many) {
+        Net net = new Net();
+        int enter = net.begin(Net.ENTER, 0, 299);
+        int fork = net.act(Net.SWITCH);
+        int one = net.act(Net.CONSTANT, 1);
+        int minus = net.act(Net.MINUS);
+        int last = minus;
+        for (int i = 0; i < 6; i++) {
+            last = net.chain(last, new int[] {Net.COPY, 0});
+        }
+        int next = net.chain(last, new int[] {Net.NEXT, 0});
+        for (int from : new int[] {enter, next}) {
+            net.way(from, 0, fork, 0);
+            net.way(from, 0, fork, 1);
+        }
+        net.way(fork, one);
+        net.way(fork, 0, minus, 0);
+        net.way(one, 0, minus, 1);
+        int copy = net.act(Net.COPY);
+        net.way(fork, 1, copy, 0);
+        for (int i = 0; i < many; i++) {
+            net.chain(copy, new int[] {Net.COPY, 0});
+        }
+        return net;
+    }
+
+    private static void pairsReadyAtOnce(Due due) {
+        Net net = oneByOneThen(7);
+        for (int seed = 0; seed < SEEDS; seed++) {
+            due.same("ahead of the last ones", net.x.run(seed, 2993), Net.SPENT);
+            due.same("seven are ready", net.x.about(10), 7);
+            due.same("run", net.x.run(seed, 4000), Net.DONE);
+            due.same("3000 went off", net.x.about(1), 3000);
+        }
+        due.same("ticks", net.x.ticks(4000), Net.DONE);
+        due.same("seven in one", net.x.about(3), 7);
+        net = oneByOneThen(8);
+        for (int seed = 0; seed < SEEDS; seed++) {
+            due.same("run", net.x.run(seed, 4000), Net.FULL);
+            due.same("seven have come", net.x.about(10), 7);
+        }
+    }
+
     private static void pairsKnown(Due due) {
         // The last token of all comes to the second port of a pair that is there: 3000 with LEAVE.
         Net net = manyPairs(299, 6);
@@ -652,6 +701,31 @@ public final class RunEdgesTest {
         due.same("by ticks", net.x.ticks(4000), Net.FULL);
         due.same("the one of colour 0 came early", net.x.fired(7), 1);
         due.same("the 300 of the turns did not find room", net.x.fired(6), 300);
+    }
+
+    private static void rowsAndNumbers(Due due) {
+        // When 300 ROWS are there, a NUMBER comes where a ROW is wanted.
+        for (int x : new int[] {-1, 0, 299, 300, 301, Net.LEAST, Net.MOST}) {
+            Net net = making(299, 0);
+            int leave = net.act(Net.LEAVE, 0);
+            net.way(1, 1, leave, 0);
+            int late = net.chain(leave, new int[] {Net.CONSTANT, x});
+            int read = net.chain(late, new int[] {Net.READ, 0});
+            int write = net.chain(late, new int[] {Net.WRITE, 0});
+            int size = net.chain(late, new int[] {Net.SIZE, 0});
+            net.token(read, 1, 0);
+            net.token(write, 1, 0);
+            net.token(write, 2, 0);
+            int[] acts = {read, write, size};
+            for (int e = 0; e < 3; e++) {
+                net.end(acts[e], e);
+            }
+            due.same("run", net.x.run(1, 4000), Net.DONE);
+            due.same("300 rows", net.x.fired(6), 300);
+            for (int e = 0; e < 3; e++) {
+                due.fault(net.x, e, 4, acts[e]);
+            }
+        }
     }
 
     private static void rowsNotMade(Due due) {

@@ -126,13 +126,10 @@ public final class TokenFloor {
             return WRONG_FUEL;
         }
         hasRun = true;
-        int howA = machine.goBySeed(seedA, fuel);
+        machine.goBySeed(seedA, fuel);
         machine.copyFigures(figuresA);
-        int howB = machine.goBySeed(seedB, fuel);
+        machine.goBySeed(seedB, fuel);
         machine.copyFigures(figuresB);
-        if (howA == howB && howA != Machine.DONE) {
-            return NONE;
-        }
         return firstDifference();
     }
 
@@ -141,7 +138,9 @@ public final class TokenFloor {
     }
 
     private int firstDifference() {
-        for (int i = 0; i < Machine.FIGURES; i++) {
+        boolean bothDone = figuresA[0] == Machine.DONE && figuresB[0] == Machine.DONE;
+        int asked = bothDone ? Machine.FIGURES : 1;
+        for (int i = 0; i < asked; i++) {
             if (figuresA[i] != figuresB[i]) {
                 return i;
             }

@@ -883,7 +883,7 @@ public final class TokenFloor {
                     goSwitch(act, colour, x, floor.cameTo(pair, 1));
                     break;
                 case Kind.ENTER:
-                    giveInside(act, colours.enter(colour, graph.number[act]), x);
+                    give(act, 0, colours.enter(colour, graph.number[act]), x);
                     break;
                 case Kind.NEXT:
                 case Kind.LEAVE:
@@ -945,7 +945,7 @@ public final class TokenFloor {
             if (!colours.isTurnOf(colour, graph.number[act])) {
                 give(act, 0, colour, Value.ofFault(Value.WRONG_COLOUR, act));
             } else if (graph.kind[act] == Kind.NEXT) {
-                giveInside(act, colours.nextTurn(colour), x);
+                give(act, 0, colours.nextTurn(colour), x);
             } else {
                 give(act, 0, colours.outerOf(colour), x);
             }
@@ -1064,17 +1064,15 @@ public final class TokenFloor {
             clashAct = act;
         }
 
-        /** Gives along the ways of side 0 in a colour that was reached; NONE: there is no room. */
-        private void giveInside(int act, int reached, long value) {
-            if (reached == NONE) {
-                how = FULL;
-            } else {
-                give(act, 0, reached, value);
-            }
-        }
-
-        /** Nothing is given once the run has stopped within the step. */
+        /**
+         * Nothing is given once the run has stopped within the step. The colour is NONE if there
+         * was no room for the one that was to be reached.
+         */
         private void give(int act, int side, int colour, long value) {
+            if (colour == NONE) {
+                how = FULL;
+                return;
+            }
             int way = graph.firstWayOf(act, side);
             for (int i = 0; i < MAX_WAYS && way != NONE && how == GOING; i++) {
                 arrive(graph.wayTo[way], graph.wayPort[way], colour, value);

@@ -5,7 +5,9 @@ import java.lang.reflect.Method;
 import java.lang.reflect.Modifier;
 import java.nio.file.Files;
 import java.nio.file.Path;
+import java.util.Map;
 import java.util.Set;
+import java.util.TreeMap;
 import java.util.TreeSet;
 import java.util.regex.Matcher;
 import java.util.regex.Pattern;
@@ -13,6 +15,7 @@ import java.util.regex.Pattern;
 /** The rules of LANGUAGE.md that can be seen from the source and the class. */
 public final class RulesTest {
     private static final Due due = new Due("RulesTest");
+    private static final String METHOD = " {4,8}[\\w\\[\\] ]*?(\\w+)\\([\\w\\[\\], ]*\\) \\{";
     private static final Set<String> FACE = Set.of(
         "act(int,int,int)int", "way(int,int,int,int)int", "token(int,int,int)int",
         "clear(int)boolean", "run(int,int)int", "ticks(int)int", "about(int)int",
@@ -26,6 +29,7 @@ public final class RulesTest {
         classesInside();
         forbidden(code);
         sizes(code);
+        depth(code);
         due.close();
     }
 
@@ -79,6 +83,8 @@ public final class RulesTest {
             due.holds(c + " has at most twenty fields", fields <= 20);
             for (Method m : c.getDeclaredMethods()) {
                 due.holds(m + " has at most seven parameters", m.getParameterCount() <= 7);
+                boolean ofFace = FACE.stream().anyMatch(f -> f.startsWith(m.getName() + "("));
+                due.holds(m + " bears no public name", !ofFace);
             }
         }
     }
@@ -108,7 +114,7 @@ public final class RulesTest {
         int start = -1;
         String[] lines = code.split("\n");
         for (int i = 0; i < lines.length; i++) {
-            if (lines[i].matches(" {4,8}[\\w\\[\\] ]+\\([\\w\\[\\], ]*\\) \\{")) {
+            if (lines[i].matches(METHOD)) {
                 start = i;
             }
             if (start >= 0 && lines[i].matches(" {4,8}\\}")) {
@@ -116,5 +122,41 @@ public final class RulesTest {
                 start = -1;
             }
         }
+    }
+
+    /** Methods of one name count as one here, so a depth is told that is never too low. */
+    private static void depth(String code) {
+        Map<String, Set<String>> calls = new TreeMap<>();
+        String name = "";
+        for (String line : code.split("\n")) {
+            Matcher head = Pattern.compile(METHOD).matcher(line);
+            if (head.matches()) {
+                name = head.group(1);
+                calls.putIfAbsent(name, new TreeSet<>());
+            } else if (!name.isEmpty()) {
+                Matcher call = Pattern.compile("(\\w+)\\(").matcher(line);
+                while (call.find()) {
+                    calls.get(name).add(call.group(1));
+                }
+            }
+        }
+        due.holds("methods were found", calls.size() > 60);
+        for (String start : calls.keySet()) {
+            int deep = deepest(calls, start, 1);
+            due.holds(start + " goes eight deep at most, not " + deep, deep <= 8);
+        }
+    }
+
+    private static int deepest(Map<String, Set<String>> calls, String name, int level) {
+        int deepest = level;
+        // Behind this level it must be recursion.
+        if (level < 50) {
+            for (String next : calls.get(name)) {
+                if (calls.containsKey(next)) {
+                    deepest = Math.max(deepest, deepest(calls, next, level + 1));
+                }
+            }
+        }
+        return deepest;
     }
 }
